@@ -190,8 +190,7 @@ public final class BreakingDisk {
 
         /** Below 0, 0 or above 0, as this comes ahead of the other, is the same, or comes behind it. */
         int order(Bytes other) {
-            int both = Math.min(row.length, other.row.length);
-            for (int k = 0; k < both; k++) {
+            for (int k = 0; k < row.length && k < other.row.length; k++) {
                 int mine = row[k] & 255;
                 int theirs = other.row[k] & 255;
                 if (mine != theirs) {
