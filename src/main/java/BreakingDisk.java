@@ -299,7 +299,6 @@ public final class BreakingDisk {
 
     /** Files by their names, always in order, so that a list is a plain copy. */
     private static final class Files {
-        /** Those below length are never null. */
         private final StoredFile[] row = new StoredFile[MOST_FILES];
         private int length = 0;
 
@@ -319,7 +318,7 @@ public final class BreakingDisk {
         int countOfSort(int sort) {
             int found = 0;
             for (int i = 0; i < length; i++) {
-                if (row[i].name.sort == sort) {
+                if (isOfSort(row[i], sort)) {
                     found++;
                 }
             }
@@ -327,6 +326,9 @@ public final class BreakingDisk {
         }
 
         void apply(Operation operation) {
+            if (operation == null) {
+                return;
+            }
             remove(operation.goes);
             if (operation.comes != null) {
                 remove(operation.comes.name);
@@ -344,16 +346,19 @@ public final class BreakingDisk {
         void copySortFrom(Files other, int sort) {
             length = 0;
             for (int i = 0; i < other.length; i++) {
-                if (other.row[i].name.sort == sort) {
-                    row[length] = other.row[i];
-                    length++;
+                if (isOfSort(other.row[i], sort)) {
+                    insert(other.row[i]);
                 }
             }
         }
 
+        private static boolean isOfSort(StoredFile file, int sort) {
+            return file != null && file.name.sort == sort;
+        }
+
         private int indexOf(Name name) {
             for (int i = 0; i < length; i++) {
-                if (name.order(row[i].name) == 0) {
+                if (row[i] != null && name.order(row[i].name) == 0) {
                     return i;
                 }
             }
@@ -372,11 +377,11 @@ public final class BreakingDisk {
         }
 
         private void insert(StoredFile file) {
-            if (isFull()) {
+            if (file == null || isFull()) {
                 return;
             }
             int i = length;
-            while (i > 0 && file.name.order(row[i - 1].name) < 0) {
+            while (i > 0 && row[i - 1] != null && file.name.order(row[i - 1].name) < 0) {
                 row[i] = row[i - 1];
                 i--;
             }

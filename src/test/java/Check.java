@@ -5,6 +5,8 @@ final class Check {
     }
 
     private int wrong = 0;
+    private int sentences = 0;
+    private String sentence = "";
 
     /** The answer as a text; an exception's class name behind "throws." if the call throws. */
     static String answerOf(Call call) {
@@ -15,18 +17,25 @@ final class Check {
         }
     }
 
+    /** What follows tests this sentence of the document. */
+    void sentence(String words) {
+        sentences++;
+        sentence = words + " | ";
+    }
+
     void due(String what, Object want, Call call) {
         String got = answerOf(call);
         if (!got.equals(String.valueOf(want))) {
             wrong++;
             if (wrong <= 50) {
-                System.out.println(what + ": answered " + got + ", due is " + want);
+                System.out.println(sentence + what + ": answered " + got + ", due is " + want);
             }
         }
     }
 
     void end(String test) {
-        System.out.println(test + ": " + (wrong == 0 ? "all answers are as due" : wrong + " answers are not as due"));
+        String tested = sentences == 0 ? "" : " (" + sentences + " sentences)";
+        System.out.println(test + tested + ": " + (wrong == 0 ? "all answers are as due" : wrong + " answers are not as due"));
         if (wrong != 0) {
             System.exit(1);
         }

@@ -146,16 +146,8 @@ public final class PromisesTest {
         check.due("write refused: no operation", 0, () -> d.disk.count(10));
     }
 
-    private static Driver sixtyFiles() {
-        Driver d = new Driver();
-        for (int i = 0; i < 60; i++) {
-            d.file(i % 7, i, "f" + i);
-        }
-        return d;
-    }
-
     private static void promise4WriteOfSixtyFiles() {
-        Driver d = sixtyFiles();
+        Driver d = Driver.ofFiles(60);
         check.due("sixty files", 60, () -> d.disk.count(7));
         d.text("new");
         check.due("the 61st", Driver.WRONG_STATE, () -> d.write(0, 60));
@@ -175,16 +167,8 @@ public final class PromisesTest {
         check.due("broken off: room again", "done", () -> d.write(0, 61));
     }
 
-    private static Driver twoHundredOperations() {
-        Driver d = new Driver().path("p");
-        for (int i = 0; i < 199; i++) {
-            d.file(0, i % 3, "");
-        }
-        return d;
-    }
-
     private static void promise4WriteOfTwoHundredOperations() {
-        Driver d = twoHundredOperations();
+        Driver d = Driver.ofOperations(199);
         check.due("the 200th write", "done", () -> d.write(0, 5));
         d.text("kept");
         check.due("the 201st write", Driver.WRONG_STATE, () -> d.write(0, 5));
@@ -248,7 +232,7 @@ public final class PromisesTest {
         check.due("rename of none to itself", Driver.WRONG_ARGUMENT, () -> d.rename(1, 0, 1, 0));
         check.due("rename refused: content", "x", () -> d.content(0, 0));
         check.due("rename refused: no operation", 1, () -> d.disk.count(10));
-        Driver e = twoHundredOperations();
+        Driver e = Driver.ofOperations(199);
         check.due("the 200th rename", "done", () -> e.rename(0, 0, 0, 9));
         check.due("the 201st rename", Driver.WRONG_STATE, () -> e.rename(0, 9, 0, 8));
         check.due("the 201st rename to itself", Driver.WRONG_STATE, () -> e.rename(0, 9, 0, 9));
@@ -282,7 +266,7 @@ public final class PromisesTest {
         check.due("delete time MIN", Driver.WRONG_INDEX, () -> d.delete(0, MIN));
         check.due("delete of none", Driver.WRONG_ARGUMENT, () -> d.delete(6, MAX));
         check.due("delete refused: no operation", 1, () -> d.disk.count(10));
-        Driver e = twoHundredOperations();
+        Driver e = Driver.ofOperations(199);
         check.due("the 200th delete", "done", () -> e.delete(0, 0));
         check.due("the 201st delete", Driver.WRONG_STATE, () -> e.delete(0, 1));
         check.due("the 201st delete of none", Driver.WRONG_ARGUMENT, () -> e.delete(0, 0));
@@ -373,17 +357,17 @@ public final class PromisesTest {
     }
 
     private static void promise8BreakOffAtTheLimits() {
-        Driver d = twoHundredOperations();
+        Driver d = Driver.ofOperations(199);
         d.disk.write(0, 77);
         check.due("breakOff at 200", 199, () -> d.disk.breakOff(199));
         check.due("breakOff at 200: the last is lost", NONE, () -> d.disk.size(0, 77));
         check.due("breakOff at 200: the others stay", 3, () -> d.disk.count(7));
         check.due("goes on as behind a SYNC", "done", () -> d.write(0, 77));
         check.due("goes on as behind a SYNC: since", 1, () -> d.disk.sync());
-        Driver e = sixtyFiles();
+        Driver e = Driver.ofFiles(60);
         check.due("breakOff at sixty", 60, () -> e.disk.breakOff(60));
         check.due("breakOff at sixty: files", 60, () -> e.disk.count(7));
-        check.due("breakOff at sixty: the last", "f59", () -> e.content(3, 59));
+        check.due("breakOff at sixty: the last", (char) ('A' + 59), () -> e.content(3, 59));
     }
 
     private static void promise9Size() {

@@ -286,7 +286,10 @@ public final class RandomRunsTest {
             compareAll();
         }
 
-        /** Looks at everything that can be seen at the end, and once more when all since the SYNC is lost. */
+        /**
+         * Looks at everything that can be seen at the end, and once more when all since the SYNC is lost. These calls
+         * are beyond the 512 of the document, which leaves their answers free; this class answers them as the others.
+         */
         void compareAll() {
             for (int turn = 0; turn < 2; turn++) {
                 for (int what = 0; what <= 10; what++) {
